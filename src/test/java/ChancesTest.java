@@ -7,6 +7,7 @@ public final class ChancesTest {
         lots();
         lotsRefused();
         lotsByHand();
+        lotsThatCannotLend();
         Checks.end();
     }
 
@@ -114,6 +115,22 @@ public final class ChancesTest {
         Checks.due("19 more", x.lots(19, 5) >= 0 ? 1 : 0, 1);
         Checks.due("deeds", x.count(3), 40);
         Checks.due("undone", x.undo(0), 40);
+    }
+
+    static void lotsThatCannotLend() {
+        // seed 6 has the second house lend the first one 1
+        ColourCoupons x = Checks.townOf("a13;b14;S9;H1;");
+        x.lots(1, 6);
+        Checks.due("its last one", x.later(1, 0), 0);
+        x.lots(1, 6);
+        Checks.due("none left", x.later(1, 0), 0);
+        Checks.due("deeds", x.count(3), 2);
+        for (int i = 0; i < 20; i++) x.month();
+        Checks.due("full purse", x.later(0, 0), 99);
+        x.lots(1, 6);
+        Checks.due("no more than 99", x.later(0, 0), 99);
+        Checks.due("not lent", x.later(1, 0), 1);
+        Checks.due("deeds", x.count(3), 23);
     }
 
     static void lotsByHand() {

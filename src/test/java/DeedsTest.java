@@ -157,7 +157,12 @@ public final class DeedsTest {
         Checks.leaves("trade", y, Checks.FULL, () -> y.trade(0, 0, 1, 1));
         Checks.leaves("state ahead of full", y, Checks.STATE, () -> y.buy(0, 0));
         Checks.due("undo", y.undo(39), 1);
-        Checks.due("trade", y.trade(0, 0, 1, 1), 9);
+        Checks.due("the last trade", y.trade(0, 0, 1, 1), 9);
+        Checks.due("undo", y.undo(39), 1);
+        Checks.due("the last lots", y.lots(1, 1) >= 0 ? 1 : 0, 1);
+        Checks.due("undo", y.undo(39), 1);
+        Checks.due("the last buy", y.buy(0, 1) >= 0 ? 1 : 0, 1);
+        Checks.due("deeds", y.count(3), 40);
     }
 
     static void undo() {
@@ -203,6 +208,12 @@ public final class DeedsTest {
         Checks.leaves("on -1", none, Checks.BAD, () -> none.on(-1));
         Checks.finds("on none", none, Checks.NOTHING, () -> none.on(0));
         ColourCoupons x = Checks.townOf("a13;b15;H9;S7;I9;");
+        Checks.due("keep without deeds", x.keep(1), 0);
+        Checks.due("kept", x.count(8), 1);
+        x.buy(0, 0);
+        Checks.due("on without deeds", x.on(1), 0);
+        Checks.due("things", x.count(4), 0);
+        x.town(0);
         x.buy(0, 0);
         Checks.due("keep 0", x.keep(0), 1);
         x.month();

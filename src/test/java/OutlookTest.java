@@ -6,6 +6,7 @@ public final class OutlookTest {
         later();
         soon();
         feast();
+        feastFarAhead();
         feastOfThings();
         Checks.end();
     }
@@ -51,6 +52,14 @@ public final class OutlookTest {
         Checks.leaves("-1", x, Checks.BAD, () -> x.fades(-1));
         x.undo(3);
         Checks.tells("the last colour of one house", x, x.fades(3), 2, 2);
+        x.undo(0);
+        x.buy(0, 0);
+        Checks.tells("the first of all", x, x.next(), 0, 5);
+        Checks.tells("the first of all", x, x.fades(5), 1, 0);
+        x.buy(0, 1);
+        Checks.tells("a later one of a lower number", x, x.fades(5), 2, 0);
+        Checks.tells("an earlier one of a higher number", x, x.next(), 1, 3);
+        Checks.due("2 months beyond", x.fades(2), 0);
     }
 
     static void later() {
@@ -105,6 +114,18 @@ public final class OutlookTest {
         Checks.leaves("set -1", x, Checks.BAD, () -> x.feast(0, -1));
         Checks.leaves("house 4", x, Checks.BAD, () -> x.feast(4, 0));
         Checks.leaves("house -1", x, Checks.BAD, () -> x.feast(-1, 0));
+    }
+
+    static void feastFarAhead() {
+        ColourCoupons x = Checks.townOf("a91;b91;c91;d91;e91;f91;g71;h81;S1;S0;");
+        Checks.tells("in 60 months", x, x.feast(0, 127), 60, 61);
+        Checks.leaves("in 61 months", x, Checks.NONE, () -> x.feast(0, 63 + 128));
+        Checks.leaves("all", x, Checks.NONE, () -> x.feast(0, 255));
+        Checks.leaves("set 256", x, Checks.BAD, () -> x.feast(0, 256));
+        for (int i = 0; i < 40; i++) x.month();
+        Checks.tells("beyond month 99", x, x.feast(0, 255), 28, 69);
+        Checks.due("it is month 40", x.count(2), 40);
+        Checks.tells("beyond month 99", x, x.later(0, 60), 99, 99);
     }
 
     static void feastOfThings() {

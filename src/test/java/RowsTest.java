@@ -121,6 +121,8 @@ public final class RowsTest {
         Checks.finds("mean of none", x, Checks.NOUGHT, () -> x.mean(0));
         Checks.fill(x, 1, 1, 2, 4);
         Checks.tells("mean", x, x.mean(1), 1, 2);
+        Checks.fill(x, 1, -7);
+        Checks.tells("mean of one", x, x.mean(1), 1, -7);
         Checks.fill(x, 1, -1, -2, -5);
         Checks.tells("mean below 0", x, x.mean(1), 1, -2);
         Checks.fill(x, 1, -1, 0);

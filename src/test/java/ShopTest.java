@@ -36,6 +36,8 @@ public final class ShopTest {
         Checks.tells("widow", x, x.shop(2, 3), 1, 4);
         Checks.tells("widow, most first", x, x.shop(2, 2), 2, 0);
         Checks.tells("on to what it can pay", x, x.shop(3, 2), 1, 0);
+        ColourCoupons z = Checks.townOf("a52;b52;H9;H4;");
+        Checks.tells("most first: of like ones the lowest", z, z.shop(0, 2), 1, 4);
         ColourCoupons y = Checks.townOf("a97;b65;H9;H9;");
         Checks.tells("5 of 6 is more than 7 of 9", y, y.shop(0, 3), 2, 3);
     }
@@ -70,7 +72,17 @@ public final class ShopTest {
         Checks.due("1", x.duel(1), 1);
         Checks.due("2: what was given is taken", x.duel(2), 0);
         Checks.due("3", x.duel(3), 1);
-        x.undo(0);
+        ColourCoupons z = Checks.townOf("a44;b77;H3;H4;H6;H7;H8;H9;");
+        // 3 gets none, 4 6 7 8 9 one each: giving to the first makes six; one may be taken again
+        Checks.due("six houses", z.duel(0), 5);
+        Checks.due("six houses", z.duel(1), 6);
+        Checks.due("six houses", z.duel(2), 5);
+        Checks.due("six houses", z.duel(3), 6);
+        ColourCoupons w = Checks.townOf("a44;b77;M9;M9;B9;W9;S9;I8;");
+        Checks.due("kinds", w.duel(0), 7);
+        Checks.due("kinds", w.duel(1), 7);
+        Checks.due("the blind one is given what would be taken", w.duel(2), 7);
+        Checks.due("kinds", w.duel(3), 7);
         ColourCoupons y = Checks.townOf("a22;H1;H3;");
         Checks.due("1", y.duel(1), 2);
         Checks.due("2: one more than needed is no help", y.duel(2), 1);
