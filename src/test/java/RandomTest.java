@@ -7,10 +7,14 @@ public final class RandomTest {
         "a11;b22;c33;d44;e55;f66;g77;h88;H9;S8;M7;B6;I5;W4;", "b19;a92;W9;W8;I9;I3;S2;S1;", "q35;r53;s41;M9;M5;B9;B1;",
         "zz11;z29;zzz15;H9;I9;B9;"};
 
+    /** What an object answers behind its 512th call is free; a step that writes a town is the longest. */
+    private static final int MOST_CALLS = 512, LONGEST_STEP = 110;
+
     private final Random random;
     private final ColourCoupons x = new ColourCoupons();
     private final Model m = new Model();
     private final int run;
+    private int calls;
 
     RandomTest(int run) {
         this.run = run;
@@ -18,7 +22,7 @@ public final class RandomTest {
     }
 
     public static void main(String[] args) {
-        int runs = args.length > 0 ? Integer.parseInt(args[0]) : 400;
+        int runs = args.length > 0 ? Integer.parseInt(args[0]) : 1500;
         for (int run = 0; run < runs; run++) new RandomTest(run).play();
         Checks.end();
     }
@@ -47,17 +51,24 @@ public final class RandomTest {
 
     void play() {
         write(up(4), TOWNS[up(TOWNS.length)]);
-        for (int i = 0; i < 300; i++) {
+        while (calls < MOST_CALLS - LONGEST_STEP) {
             step();
-            same("asked", x.asked(), m.asked);
-            same("upper", x.upper(), m.upper.longValueExact());
-            same("lower", x.lower(), m.lower.longValueExact());
-            same("finding", x.finding(), m.finding);
             same("digest", x.digest(), m.digest());
+            same("asked", x.asked(), m.asked);
+            if (up(4) == 0) lastTold();
         }
+        lastTold();
+    }
+
+    void lastTold() {
+        same("upper", x.upper(), m.upper.longValueExact());
+        same("lower", x.lower(), m.lower.longValueExact());
+        same("finding", x.finding(), m.finding);
+        for (int f = 1; f <= 5; f++) same("findings " + f, x.findings(f), m.findings[f]);
     }
 
     void same(String call, long got, long want) {
+        calls++;
         Checks.due("run " + run + ": " + call, got, want);
     }
 
