@@ -140,20 +140,17 @@ public final class EdgesOfOutlooksTest {
     }
 
     static void laterMonths() {
-        String town = "a19;H9;S1;M3;B4;I2;W7;";
-        ColourCoupons x = Checks.townOf(town);
-        ColourCoupons y = Checks.townOf(town);
-        x.buy(0, 0);
-        y.buy(0, 0);
-        for (int n = 0; n <= 39; n++) {
-            for (int h = 0; h < 6; h++) {
+        for (int h = 0; h < 6; h++) {
+            ColourCoupons x = Checks.townOf("a19;H9;S1;M3;B4;I2;W7;");
+            ColourCoupons y = Checks.townOf("a19;H9;S1;M3;B4;I2;W7;");
+            x.buy(0, 0);
+            y.buy(0, 0);
+            for (int n = 0; n <= 39; n++) {
                 int got = x.later(h, n);
-                int all = x.asked();
+                Checks.due("all together", x.asked(), y.count(5));
                 Checks.tells("later " + h + ", " + n, y, y.house(h, 2), 1, got);
-                Checks.due("all together", all, y.count(5));
+                y.month();
             }
-            if (n < 39) y.month();
-            if (n == 18) x = again(town);
         }
         ColourCoupons z = Checks.townOf("a19;S1;S0;H9;");
         Checks.tells("in 59", z, z.later(0, 59), 60, 69);
@@ -165,13 +162,6 @@ public final class EdgesOfOutlooksTest {
         z.month();
         Checks.tells("beyond month 99, too", z, z.later(0, 60), 99, 108);
         Checks.due("it is month 40 still", z.count(2), 40);
-    }
-
-    /** Another object, as one is used for 512 calls. */
-    static ColourCoupons again(String town) {
-        ColourCoupons x = Checks.townOf(town);
-        x.buy(0, 0);
-        return x;
     }
 
     static void soonRefused() {
